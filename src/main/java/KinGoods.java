@@ -899,7 +899,6 @@ public final class KinGoods {
 
         void empty() {
             length = 0;
-            place = 0;
         }
 
         int next() {
@@ -1027,7 +1026,7 @@ public final class KinGoods {
             int n = 0;
             for (int i = 0; i < LONGEST_RULE; i++) {
                 int digit = next() - '0';
-                if (digit < 0 || digit > 7 || !isRow(row | digit << 3 * i, i + 1)) {
+                if (digit < SON || digit > GODCHILD || !isRow(row | digit << 3 * i, i + 1)) {
                     break;
                 }
                 row |= digit << 3 * i;

@@ -10,6 +10,7 @@ public final class DeathsTest {
         gathers();
         balance();
         paid();
+        allTwelve();
         script.end();
     }
 
@@ -282,6 +283,74 @@ public final class DeathsTest {
             paid() = 12
             dies(3) = 3                 # no daughter
             paid() = 3
+            """);
+        script.run("19 who comes first is owed", """
+            text "m,m,m"
+            family() = 3
+            thing(1, 10, 1, 0) = 0
+            thing(1, 5, 2, 0) = 1
+            paid() = 15
+            """);
+    }
+
+    /** With twelve people and twelve things no row has a free place left behind them. */
+    private static void allTwelve() {
+        script.run("16 to 19 twelve of all", """
+            text "m,wsa,mfaob,wfaob,m,wse,mfeof,wfeof,mscobfa,w,m,w"
+            family() = fault 38         # c is a man
+            text "m,wsa,mfaob,wfaob,m,wse,mfeof,wfeof,m,w,m,w"
+            family() = 12
+            thing(0, 1, 0, 12) = 0
+            thing(0, 2, 1, 12) = 1
+            thing(1, 3, 0, 11) = 2
+            thing(1, 4, 11, 0) = 3
+            thing(2, 5, 0, 11) = 4
+            thing(2, 6, 11, 0) = 5
+            thing(3, 7, 0, 12) = 6
+            thing(3, 8, 4, 12) = 7
+            thing(0, 9, 4, 12) = 8
+            thing(1, 10, 4, 0) = 9
+            thing(1, 11, 10, 11) = 10
+            thing(0, 12, 11, 12) = 11
+            count(3) = 12
+            count(6) = 24
+            gathers(0, 0) = 3
+            gathers(11, 0) = 12
+            gathers(4, 1) = 10
+            balance(0) = 11
+            balance(11) = 10
+            paid() = 21
+            kin(0, 0) = {2}
+            kin(5, 1) = {7}
+            kin(2, 2) = {3}
+            kin(2, 3) = {}
+            heir(11, 0) = NONE
+            told(11, 6) = 11
+            orders({0 11}, 11, 12) = 2
+            orders({0 4 11}, 10, 12) = 6
+            image() = 1
+            explained({}) = 1
+            sheet(0, 0, 12) = 12
+            film(0, 0, 0) = 12
+            film(0, 0, 1) = INDEX
+            judged(0, 0, 11, 1) = NONE
+            wed(11, 10, 0, 0, 0, 1, -1) = 1
+            wed(11, 10, 0, 0, 0, 1, 0) = 10
+            wed(11, 10, 0, 0, 0, 1, 1) = 11
+            dies(11) = 3
+            of(2, 2) = 12
+            of(3, 2) = 12
+            of(5, 2) = 12
+            of(10, 2) = 12
+            of(11, 2) = 12
+            explained({11}) = 1
+            dies(0) = 2
+            of(0, 2) = 2
+            of(6, 2) = 12
+            of(9, 3) = 2
+            count(3) = 5
+            count(4) = 7
+            lots(30) = 8                # of thirty numbers so many leave 0; nobody is born
             """);
     }
 }

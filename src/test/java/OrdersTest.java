@@ -287,6 +287,13 @@ public final class OrdersTest {
             lots(1) = 100               # 31051 by 1; 2 is dead, 6 is a widow
             told(8, 3) = 4
             """);
+        script.run("22 the first of all bears", """
+            text "w,msa"
+            family() = 2
+            lots(1) = 100
+            told(2, 2) = 1
+            told(2, 3) = 0
+            """);
         script.run("22 from other seeds", """
             text "m,wsa"
             family() = 2

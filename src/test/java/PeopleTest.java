@@ -149,6 +149,8 @@ public final class PeopleTest {
             marry(2, 3) = NOT           # father and mother alike
             marry(2, 4) = NOT           # father alike
             marry(2, 5) = NOT           # mother alike
+            marry(6, 4) = NOT           # father alike, mothers unknown
+            marry(7, 5) = NOT           # mother alike, fathers unknown
             marry(6, 5) = 1             # a's and b's
             marry(7, 4) = 1
             marry(0, 3) = NOT           # her father

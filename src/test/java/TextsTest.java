@@ -158,6 +158,10 @@ public final class TextsTest {
             family() = fault 2
             text "wsa"
             family() = fault 2
+            text "woa"
+            family() = fault 2
+            text "m,wob"
+            family() = fault 4
             text "m,wsasa"
             family() = fault 5
             text "m,mfafa"
@@ -242,6 +246,41 @@ public final class TextsTest {
             restore() = 1
             count(2) = 1
             told(0, 5) = 1
+            text "w"
+            family() = 1
+            count(0) = 1
+            told(0, 0) = 1
+            """);
+        script.run("13 nothing of the greater family is left", """
+            text "m,wsa,mfaob,wfaob,mfcod"
+            family() = 5
+            thing(0, 10, 4, 12) = 0
+            thing(1, 20, 1, 0) = 1
+            thing(0, 30, 0, 12) = 2
+            text "m,w"
+            family() = 2
+            count(0) = 2
+            count(1) = 2
+            count(2) = 0
+            count(3) = 0
+            count(6) = 0
+            kin(0, 0) = {}
+            kin(1, 1) = {}
+            gathers(0, 0) = 0
+            gathers(0, 1) = 0
+            balance(0) = 0
+            paid() = 0
+            sheet(0, 0, 0) = 0
+            film(0, 0, 0) = 0
+            dies(0) = 0
+            count(4) = 0
+            text "w,m"
+            family() = 2
+            kin(0, 0) = {}
+            kin(1, 0) = {}
+            person(0, 12, 12) = 2
+            told(2, 4) = 12
+            told(2, 5) = 12
             """);
     }
 

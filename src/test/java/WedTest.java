@@ -229,5 +229,22 @@ public final class WedTest {
             wed(0, 0, 0, 1, 2, 1, -1) = 0
             wed(0, 0, 0, 1, 2, 1, 3) = NONE
             """);
+        script.run("27 a row of eight", """
+            text "m,mfa,mfb,mfc,mfd,mfe,mff,mfg,mfh"
+            family() = 9
+            thing(0, 5, 0, 12) = 0
+            sheet(0, 0, 8) = 8
+            item(0, 0, 1, 1) = 1
+            item(0, 0, 2, 2) = 1
+            item(0, 0, 3, 3) = 1
+            item(0, 0, 4, 4) = 1
+            item(0, 0, 5, 5) = 1
+            item(0, 0, 6, 6) = 1
+            item(0, 0, 7, 7) = 1
+            wed(0, 0, 0, 0, 0, 8, -1) = 0
+            wed(0, 0, 0, 0, 1, 7, -1) = 0
+            item(0, 0, 7, 6) = 1
+            wed(0, 0, 0, 0, 0, 8, -1) = NOT
+            """);
     }
 }
