@@ -284,6 +284,19 @@ public final class DeathsTest {
             dies(3) = 3                 # no daughter
             paid() = 3
             """);
+        script.run("19 what has lapsed or ended is owed to nobody", """
+            text "m,wfa,m,m,m,m,m,m,m,m,m,m"
+            family() = 12
+            thing(1, 5, 0, 1) = 0
+            thing(1, 7, 2, 3) = 1
+            thing(1, 9, 4, 2) = 2
+            paid() = 14                 # 5 to 1, 2 to 2, 7 to 3
+            dies(0) = 1
+            dies(2) = 1
+            count(4) = 2
+            count(5) = 1
+            paid() = 0
+            """);
         script.run("19 who comes first is owed", """
             text "m,m,m"
             family() = 3
