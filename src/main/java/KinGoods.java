@@ -884,17 +884,21 @@ public final class KinGoods {
             return (int) (w >> 8 * i & 255);
         }
 
-        /** Blanks go, so that a place counts without them. */
         void open() {
-            int left = 0;
-            for (int i = 0; i < length; i++) {
-                if (bytes[i] != ' ') {
-                    bytes[left] = bytes[i];
-                    left++;
-                }
-            }
-            length = left;
             place = 0;
+            passBlanks();
+        }
+
+        /** A blank is never what can't stand there, but it is a byte: places behind it count it, and so does the end. */
+        void passBlanks() {
+            for (int i = place; i < length && next() == ' '; i++) {
+                place++;
+            }
+        }
+
+        void step() {
+            place++;
+            passBlanks();
         }
 
         void empty() {
@@ -909,7 +913,7 @@ public final class KinGoods {
             if (next() != sign) {
                 return false;
             }
-            place++;
+            step();
             return true;
         }
 
@@ -940,7 +944,7 @@ public final class KinGoods {
             } else if (next() != 'm') {
                 return false;
             }
-            place++;
+            step();
             int p = into.addPerson(sex, NOBODY, NOBODY);
             return into.known(p) && readFather(into, p) && readMother(into, p) && readSpouse(into, p);
         }
@@ -954,7 +958,7 @@ public final class KinGoods {
                 return false;
             }
             into.father[p] = named;
-            place++;
+            step();
             return true;
         }
 
@@ -967,7 +971,7 @@ public final class KinGoods {
                 return false;
             }
             into.mother[p] = named;
-            place++;
+            step();
             return true;
         }
 
@@ -983,7 +987,7 @@ public final class KinGoods {
             }
             into.spouse[p] = named;
             into.spouse[named] = p;
-            place++;
+            step();
             return true;
         }
 
@@ -996,7 +1000,7 @@ public final class KinGoods {
                     return fault();
                 }
                 seen |= 1 << kind;
-                place++;
+                step();
                 if (!skip(':') || !readRow(into, kind)) {
                     return fault();
                 }
@@ -1031,7 +1035,7 @@ public final class KinGoods {
                 }
                 row |= digit << 3 * i;
                 n++;
-                place++;
+                step();
             }
             if (n == 0) {
                 return false;

@@ -405,7 +405,7 @@ final class Model {
     }
 
     private String take() {
-        String text = tape.replace(" ", "");
+        String text = tape;
         tape = "";
         return text;
     }
@@ -417,6 +417,9 @@ final class Model {
         char state = '0';
         for (int i = 0; i < text.length(); i++) {
             char c = text.charAt(i);
+            if (c == ' ') {
+                continue;
+            }
             Person last = draft.people.isEmpty() ? null : draft.people.get(draft.people.size() - 1);
             Person named = c >= 'a' && c <= 'l' && c - 'a' < draft.people.size() - 1 ? draft.people.get(c - 'a') : null;
             if (state == '0' && (c == 'm' || c == 'w')) {
@@ -458,6 +461,9 @@ final class Model {
         int state = 0;
         for (int i = 0; i < text.length(); i++) {
             char c = text.charAt(i);
+            if (c == ' ') {
+                continue;
+            }
             int kind = "ldqj".indexOf(c);
             if (state == 0 && kind >= 0 && !seen.contains(kind)) {
                 seen.add(kind);

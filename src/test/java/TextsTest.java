@@ -43,7 +43,7 @@ public final class TextsTest {
             type(0x206d, 2) = 2         # nothing has come: this is all
             type(126, 1) = 3
             type(32, 1) = 4
-            family() = fault 1
+            family() = fault 2
             type(0x7f6d, 1) = 1
             type(-147, 1) = 2           # its lowest byte is m
             family() = fault 1
@@ -68,7 +68,7 @@ public final class TextsTest {
             type(0x2020, 2) = FULL
             type(0x20, 1) = 120
             type(0x20, 1) = FULL
-            rules() = fault 0
+            rules() = fault 120
             type(0x20, 1) = 1
             """);
     }
@@ -117,7 +117,7 @@ public final class TextsTest {
         script.run("13 faults", """
             family() = fault 0
             text "   "
-            family() = fault 0
+            family() = fault 3
             text ","
             family() = fault 0
             text "a"
@@ -202,13 +202,27 @@ public final class TextsTest {
     }
 
     private static void familyPlaces() {
-        script.run("13 blanks do not count", """
+        script.run("13 a blank is never at fault, but it has a place", """
             text "  m x"
-            family() = fault 1
-            text " m , m f b "
             family() = fault 4
+            text " m , m f b "
+            family() = fault 9
             text "m ,  "
-            family() = fault 2
+            family() = fault 5          # the end: how many bytes there are
+            text "m , w s  "
+            family() = fault 9
+            text "m,mf "
+            family() = fault 5
+            text " "
+            family() = fault 1
+            text "m,m,m,m,m,m,m,m,m,m,m,m  ,m"
+            family() = fault 25
+            text "m , w s a , w   s a"
+            family() = fault 18
+            text "   "
+            type(0x6d, 1) = 4
+            type(0x20, 1) = 5
+            family() = 1                # blanks at the end are no fault
             """);
     }
 
@@ -322,7 +336,7 @@ public final class TextsTest {
         script.run("14 faults", """
             rules() = fault 0
             text "  "
-            rules() = fault 0
+            rules() = fault 2
             text "m:0"
             rules() = fault 0
             text "L:0"
@@ -374,7 +388,7 @@ public final class TextsTest {
             text "l:1;d:2;q:3;j:44"
             rules() = fault 15
             text " l : 5 ; d x"
-            rules() = fault 5
+            rules() = fault 11
             rule(0, 0, 1) = 0           # those told stay
             rule(1, 1, 1) = 1
             rule(2, 3, 1) = 3
@@ -382,6 +396,31 @@ public final class TextsTest {
             text "l:5"
             rules() = 1
             rule(0, 0, 1) = 5
+            """);
+        script.run("14 a blank is never at fault, but it has a place", """
+            type(32, 1) = 1
+            rules() = fault 1
+            text " x"
+            rules() = fault 1
+            text "l "
+            rules() = fault 2
+            text "l : "
+            rules() = fault 4
+            text "l :  6"
+            rules() = fault 5
+            text "l: 0 0"
+            rules() = fault 5
+            text "l:012  3"
+            rules() = fault 7
+            text "l:0 ; "
+            rules() = fault 6
+            text "l:0 ; l:1"
+            rules() = fault 6
+            text "l:1;d:2;q:3;j:4 ;"
+            rules() = fault 16
+            text "l:0 1  "
+            rules() = 1
+            rule(0, 0, 1) = 8           # 0 1
             """);
         script.run("14 nothing else changes", """
             text "m,wsa"
