@@ -422,6 +422,17 @@ public final class DeathsBoundsTest {
             thing(1, 16, 3, 1) = 8
             paid() = 25                 # -7, 25, -6, -12
             """);
+        script.run("19 what LAPSED, ENDED is owed to nobody, of twelve, too", """
+            text "m,wfa,m,m,m,m,m,m,m,m,m,m"
+            family() = 12
+            thing(1, 5, 0, 1) = 0
+            thing(1, 7, 2, 3) = 1
+            paid() = 12
+            dies(0) = 1
+            paid() = 7
+            dies(2) = 1
+            paid() = 0
+            """);
         script.run("19 the first and the last of twelve", """
             text "m,m,m,m,m,m,m,m,m,m,m,w"
             family() = 12

@@ -14,6 +14,7 @@ public final class LotsBoundsTest {
         whoDies();
         deathsAreWorked();
         whoBears();
+        firstOfAllBears();
         noneToBear();
         twelve();
         manySteps();
@@ -152,6 +153,18 @@ public final class LotsBoundsTest {
                 script.same("22 and no GODCHILD", x.told(10, 5), 12);
             }
             script.same("22 how often it was drawn", x.seed(0), bears ? third : second);
+        }
+    }
+
+    private static void firstOfAllBears() {
+        for (int v : seeds()) {
+            if (left(next(v), 3) == 0) {
+                continue;
+            }
+            KinGoods x = family("w,msa", v);
+            script.same("22 the first of all bears, from " + v, x.lots(1), 100);
+            script.same("22 the child's MOTHER", x.told(2, 3), 0);
+            script.same("22 the child's FATHER", x.told(2, 2), 1);
         }
     }
 

@@ -14,6 +14,7 @@ public final class PeopleBoundsTest {
         told();
         kin();
         cousins();
+        longestRun();
         script.end();
     }
 
@@ -594,5 +595,15 @@ public final class PeopleBoundsTest {
             adopt(8, 3) = 2
             kin(8, 3) = {5 7}
             """);
+    }
+
+    /** Each refused call counts as one, so a run can be made of them alone. */
+    private static void longestRun() {
+        KinGoods x = new KinGoods();
+        for (int i = 0; i < 510; i++) {
+            script.same("'at most 512 calls': the " + (i + 1) + "th", i % 2 == 0 ? x.told(0, 0) : x.seed(i), i % 2 == 0 ? -1 : Math.max(1, i - 2));
+        }
+        script.same("'at most 512 calls': the 511th", x.person(1, 12, 12), 0);
+        script.same("'at most 512 calls': the 512th", x.told(0, 0), 1);
     }
 }
