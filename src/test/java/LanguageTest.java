@@ -2,7 +2,9 @@ import java.io.IOException;
 import java.nio.file.Files;
 import java.nio.file.Path;
 import java.util.List;
+import java.util.Map;
 import java.util.Set;
+import java.util.TreeMap;
 import java.util.TreeSet;
 import java.util.regex.Matcher;
 import java.util.regex.Pattern;
@@ -14,6 +16,9 @@ public final class LanguageTest {
         "synchronized", "assert", "native", "transient", "volatile", "strictfp", "double", "float", "protected", "Object",
         "Exception", "Error", "Thread", "Random", "Stream", "Map", "Set", "equals", "hashCode", "toString");
     private static final Set<String> LIBRARY = Set.of("System.arraycopy", "Integer.bitCount", "Math.max");
+
+    private static final Set<String> NO_METHODS = Set.of("if", "for", "switch", "while");
+    private static final int DEEPEST = 8;
 
     private static final Script script = new Script();
 
@@ -30,7 +35,7 @@ public final class LanguageTest {
         script.same("calls of the library", library(code), 0);
         script.same("a while without a for's bounds", found(code, "\\bwhile\\b|\\bdo\\b"), 0);
         script.same("classes", found(code, "\\bclass\\b"), 6);
-        lengths(code);
+        calls(bodies(code));
         script.end();
     }
 
@@ -59,12 +64,13 @@ public final class LanguageTest {
         return calls.size();
     }
 
-    /** A method's head ends with "{" behind ")"; it ends where the brackets do. */
-    private static void lengths(String code) {
+    /** Each method by its name, those of one name in several classes as one, so that what calls go through is never told too low. */
+    private static Map<String, String> bodies(String code) {
+        Map<String, String> found = new TreeMap<>();
         Matcher matcher = Pattern.compile("(\\w+)\\(([^()]*)\\) \\{").matcher(code);
         while (matcher.find()) {
             String name = matcher.group(1);
-            if (Set.of("if", "for", "switch", "while").contains(name)) {
+            if (NO_METHODS.contains(name)) {
                 continue;
             }
             int depth = 1;
@@ -76,6 +82,28 @@ public final class LanguageTest {
             long lines = code.substring(matcher.start(), at).lines().count();
             script.same("a method of more than sixty lines: " + name, Math.max(60, lines), 60);
             script.same("more than seven parameters: " + name, Math.max(7, matcher.group(2).split(",").length), 7);
+            found.merge(name, code.substring(matcher.end(), at), String::concat);
+        }
+        return found;
+    }
+
+    /** How many calls stand open at once at most from a method on; a method that comes back to itself is told as far too deep. */
+    private static int depth(Map<String, String> bodies, String name, int above) {
+        int deepest = 0;
+        Matcher matcher = Pattern.compile("\\b(\\w+)\\(").matcher(bodies.get(name));
+        while (matcher.find() && above < DEEPEST * 3) {
+            if (bodies.containsKey(matcher.group(1))) {
+                deepest = Math.max(deepest, depth(bodies, matcher.group(1), above + 1));
+            }
+        }
+        return deepest + 1;
+    }
+
+    private static void calls(Map<String, String> bodies) {
+        for (String name : bodies.keySet()) {
+            script.same("calls more than eight deep: " + name, Math.max(DEEPEST, depth(bodies, name, 1)), DEEPEST);
+            boolean makes = found(bodies.get(name), "\\bnew\\b") > 0 && Character.isLowerCase(name.charAt(0));
+            script.same("objects made beside constructors: " + name, makes ? 1 : 0, 0);
         }
     }
 }
